@@ -62,8 +62,10 @@ public final class FountainDesk {
         if (!isSymbolCount(k) || !isByteCount(t) || tape.length != k * t) {
             throw new IllegalArgumentException();
         }
-        solveTape(k, t);
-        block.load(work, k, t);
+        // The turn is asked for first: its search uses the work equations too.
+        int turn = turns.of(k);
+        solveTape(k, t, turn);
+        block.load(work, k, turn);
         tape.length = 0;
     }
 
@@ -74,7 +76,7 @@ public final class FountainDesk {
         if (!isPacket(x) || i < 0 || i >= block.bytes) {
             throw new IndexOutOfBoundsException();
         }
-        lookUp(block.symbols, x);
+        packet.find(block.symbols, x, block.turn);
         return block.valueOf(packet, i);
     }
 
@@ -85,7 +87,7 @@ public final class FountainDesk {
         if (!isPacket(x)) {
             throw new IndexOutOfBoundsException();
         }
-        lookUp(k, x);
+        packet.find(k, x, turns.of(k));
         return place ? packet.greatest() : packet.size;
     }
 
@@ -93,7 +95,7 @@ public final class FountainDesk {
         if (!isSymbolCount(k) || !isByteCount(t)) {
             throw new IllegalArgumentException();
         }
-        catcher.start(k, t);
+        catcher.begin(k, t, turns.of(k));
     }
 
     public boolean take(int x) throws IllegalStateException, IndexOutOfBoundsException, UnsupportedOperationException {
@@ -167,7 +169,7 @@ public final class FountainDesk {
         if (!isPacket(x)) {
             throw new IndexOutOfBoundsException();
         }
-        return derive(x);
+        return catcherDerives(x);
     }
 
     public int known(int x, int i) throws IllegalStateException, IndexOutOfBoundsException {
@@ -177,7 +179,7 @@ public final class FountainDesk {
         if (!isPacket(x)) {
             throw new IndexOutOfBoundsException();
         }
-        if (!derive(x)) {
+        if (!catcherDerives(x)) {
             throw new IllegalStateException();
         }
         if (i < 0 || i >= catcher.bytes) {
@@ -227,16 +229,10 @@ public final class FountainDesk {
         return block.symbols != 0 && block.symbols == catcher.symbols && block.bytes == catcher.bytes;
     }
 
-    private void lookUp(int symbols, int x) {
-        packet.find(symbols + ADDED, x, turns.of(symbols));
-    }
-
-    private void solveTape(int symbols, int bytes) {
-        // The turn is asked for first: its search uses the work equations too.
-        int turn = turns.of(symbols);
+    private void solveTape(int symbols, int bytes, int turn) {
         work.start(symbols, bytes);
         for (int x = 0; x < symbols; x++) {
-            packet.find(symbols + ADDED, x, turn);
+            packet.find(symbols, x, turn);
             work.setLine(packet);
             for (int i = 0; i < bytes; i++) {
                 work.setValue(i, tape.held[x * bytes + i]);
@@ -247,7 +243,7 @@ public final class FountainDesk {
 
     /** By how much the rank grew, or NONE if the packet was refused. */
     private int catchFromBlock(int x) {
-        lookUp(catcher.symbols, x);
+        packet.find(catcher.symbols, x, catcher.turn);
         catcher.equations.setLine(packet);
         for (int i = 0; i < catcher.bytes; i++) {
             catcher.equations.setValue(i, block.valueOf(packet, i));
@@ -257,7 +253,7 @@ public final class FountainDesk {
 
     /** By how much the rank grew, or NONE if the packet was refused. */
     private int catchFromTape(int x) {
-        lookUp(catcher.symbols, x);
+        packet.find(catcher.symbols, x, catcher.turn);
         catcher.equations.setLine(packet);
         for (int i = 0; i < catcher.bytes; i++) {
             catcher.equations.setValue(i, tape.held[i]);
@@ -265,22 +261,22 @@ public final class FountainDesk {
         return catcher.catchLine();
     }
 
-    private boolean derive(int x) {
-        lookUp(catcher.symbols, x);
+    private boolean catcherDerives(int x) {
+        packet.find(catcher.symbols, x, catcher.turn);
         return catcher.equations.derive(packet);
     }
 
     private int symbolsThatFollow() {
         int found = 0;
         for (int x = 0; x < catcher.symbols; x++) {
-            if (derive(x)) {
+            if (catcherDerives(x)) {
                 found++;
             }
         }
         return found;
     }
 
-    /** The 256 bytes as a field: 2 runs through all but 0, so products are sums of powers of it. */
+    /** The 256 bytes as a field: the powers of 2 are all but 0, so a product adds exponents. */
     private static final class Field {
         private static final int MODULUS = 285;
         private static final int ORDER = 255;
@@ -317,10 +313,10 @@ public final class FountainDesk {
             return power[e % ORDER];
         }
 
-        /** Adds factor (not 0) times one row to another, from place first up to before place stop. */
-        void addTimes(int[] to, int[] from, int factor, int first, int stop) {
+        /** Adds factor (not 0) times the first so many elements of one row to those of another. */
+        void addTimes(int[] to, int[] from, int factor, int length) {
             int shift = exponent[factor];
-            for (int j = first; j < stop; j++) {
+            for (int j = 0; j < length; j++) {
                 int value = from[j];
                 if (value != 0) {
                     to[j] ^= power[shift + exponent[value]];
@@ -367,7 +363,8 @@ public final class FountainDesk {
             size = 0;
         }
 
-        void find(int inner, int x, int turn) {
+        void find(int symbols, int x, int turn) {
+            int inner = symbols + ADDED;
             long seed = x + (long) PACKETS * turn;
             int wanted = Math.min(sizeFor(chance(seed, 0, DRAWS)), inner);
             int prime = leastPrimeFrom(inner);
@@ -435,7 +432,8 @@ public final class FountainDesk {
     /**
      * Rows of places, each with the bytes it gives, kept so that each has 1 at a place of its own (its
      * lead), 0 at the leads of all others, and 0 behind its lead. So a line is reduced by just those rows
-     * on whose leads it has something, in any order.
+     * on whose leads it has something, in any order. The bytes stand in front of the places: all that is
+     * not 0 in a row then lies up to its lead.
      */
     private static final class Equations {
         private final Field field;
@@ -443,23 +441,23 @@ public final class FountainDesk {
         private final boolean[] leads;
         private final int[] line;
         private int inner;
-        private int width;
+        private int bytes;
         private int rank;
 
         Equations(Field field) {
             this.field = field;
-            rows = new int[MOST_INNER][MOST_INNER + MOST_BYTES];
+            rows = new int[MOST_INNER][MOST_BYTES + MOST_INNER];
             leads = new boolean[MOST_INNER];
-            line = new int[MOST_INNER + MOST_BYTES];
+            line = new int[MOST_BYTES + MOST_INNER];
             inner = 0;
-            width = 0;
+            bytes = 0;
             rank = 0;
         }
 
         /** Forgets all but the eleven rows that stand for every block of so many symbols. */
         void start(int symbols, int bytes) {
             inner = symbols + ADDED;
-            width = inner + bytes;
+            this.bytes = bytes;
             rank = 0;
             for (int p = 0; p < MOST_INNER; p++) {
                 leads[p] = false;
@@ -476,14 +474,14 @@ public final class FountainDesk {
 
         /** The line becomes the packet's row, with bytes 0. */
         void setLine(PacketRow packet) {
-            clearLine();
+            Arrays.fill(line, 0);
             for (int i = 0; i < packet.size; i++) {
-                line[packet.places[i]] = 1;
+                line[bytes + packet.places[i]] = 1;
             }
         }
 
         void setValue(int i, int value) {
-            line[inner + i] = value;
+            line[i] = value;
         }
 
         /** Takes the line in: 1 if the rank grew, 0 if the line followed, NONE if it contradicts. */
@@ -505,53 +503,40 @@ public final class FountainDesk {
         }
 
         int derivedValue(int i) {
-            return line[inner + i];
-        }
-
-        boolean isFull() {
-            return rank == inner;
-        }
-
-        private void clearLine() {
-            Arrays.fill(line, 0);
+            return line[i];
         }
 
         private void setSumLine(int symbols, int i) {
-            clearLine();
+            Arrays.fill(line, 0);
             for (int j = 0; j < symbols; j++) {
                 int a = 1 + j / SUMS % (SUMS - 1);
                 if (j % SUMS == i || (j + a) % SUMS == i || (j + 2 * a) % SUMS == i) {
-                    line[j] = 1;
+                    line[bytes + j] = 1;
                 }
             }
-            line[symbols + i] = 1;
+            line[bytes + symbols + i] = 1;
         }
 
         private void setPowerLine(int symbols, int i) {
-            clearLine();
+            Arrays.fill(line, 0);
             for (int j = 0; j < symbols + SUMS; j++) {
-                line[j] = field.powerOfTwo(j * (i + 1));
+                line[bytes + j] = field.powerOfTwo(j * (i + 1));
             }
-            line[symbols + SUMS + i] = 1;
+            line[bytes + symbols + SUMS + i] = 1;
         }
 
         private void reduceLine() {
             for (int p = 0; p < inner; p++) {
-                if (line[p] != 0 && leads[p]) {
-                    addRow(line, rows[p], line[p], p);
+                int factor = line[bytes + p];
+                if (factor != 0 && leads[p]) {
+                    field.addTimes(line, rows[p], factor, bytes + p + 1);
                 }
             }
         }
 
-        /** Adds a multiple of a row, whose lead is told: behind that it has only bytes. */
-        private void addRow(int[] to, int[] row, int factor, int lead) {
-            field.addTimes(to, row, factor, 0, lead + 1);
-            field.addTimes(to, row, factor, inner, width);
-        }
-
         private int lineLead() {
             for (int p = inner - 1; p >= 0; p--) {
-                if (line[p] != 0) {
+                if (line[bytes + p] != 0) {
                     return p;
                 }
             }
@@ -559,8 +544,8 @@ public final class FountainDesk {
         }
 
         private boolean hasValueLeft() {
-            for (int j = inner; j < width; j++) {
-                if (line[j] != 0) {
+            for (int i = 0; i < bytes; i++) {
+                if (line[i] != 0) {
                     return true;
                 }
             }
@@ -568,14 +553,15 @@ public final class FountainDesk {
         }
 
         private void keepLine(int lead) {
-            int factor = field.inverse(line[lead]);
+            int scale = field.inverse(line[bytes + lead]);
             int[] kept = rows[lead];
-            for (int j = 0; j < width; j++) {
-                kept[j] = field.times(factor, line[j]);
+            for (int j = 0; j < bytes + inner; j++) {
+                kept[j] = field.times(scale, line[j]);
             }
             for (int p = lead + 1; p < inner; p++) {
-                if (leads[p] && rows[p][lead] != 0) {
-                    addRow(rows[p], kept, rows[p][lead], lead);
+                int factor = rows[p][bytes + lead];
+                if (factor != 0 && leads[p]) {
+                    field.addTimes(rows[p], kept, factor, bytes + lead + 1);
                 }
             }
             leads[lead] = true;
@@ -601,29 +587,25 @@ public final class FountainDesk {
 
         int of(int symbols) {
             if (found[symbols] == NONE) {
-                found[symbols] = search(symbols);
+                int turn = 0;
+                while (turn < MOST_TRIES && !fillsRank(symbols, turn)) {
+                    turn++;
+                }
+                found[symbols] = turn;
             }
             return found[symbols];
-        }
-
-        private int search(int symbols) {
-            int turn = 0;
-            while (turn < MOST_TRIES && !fillsRank(symbols, turn)) {
-                turn++;
-            }
-            return turn;
         }
 
         private boolean fillsRank(int symbols, int turn) {
             work.start(symbols, 0);
             for (int x = 0; x < symbols; x++) {
-                packet.find(symbols + ADDED, x, turn);
+                packet.find(symbols, x, turn);
                 work.setLine(packet);
                 if (work.learn() != 1) {
                     return false;
                 }
             }
-            return work.isFull();
+            return true;
         }
     }
 
@@ -632,19 +614,22 @@ public final class FountainDesk {
         private final int[][] innerBytes;
         private int symbols;
         private int bytes;
+        private int turn;
 
         Block() {
             innerBytes = new int[MOST_INNER][MOST_BYTES];
             symbols = 0;
             bytes = 0;
+            turn = 0;
         }
 
         /** Takes over what equations of full rank say: then each row has its lead alone. */
-        void load(Equations solved, int symbols, int bytes) {
+        void load(Equations solved, int symbols, int turn) {
             this.symbols = symbols;
-            this.bytes = bytes;
+            this.turn = turn;
+            bytes = solved.bytes;
             for (int p = 0; p < solved.inner; p++) {
-                System.arraycopy(solved.rows[p], solved.inner, innerBytes[p], 0, bytes);
+                System.arraycopy(solved.rows[p], 0, innerBytes[p], 0, bytes);
             }
         }
 
@@ -662,18 +647,21 @@ public final class FountainDesk {
         private final Equations equations;
         private int symbols;
         private int bytes;
+        private int turn;
         private int caught;
 
         Catcher(Field field) {
             equations = new Equations(field);
             symbols = 0;
             bytes = 0;
+            turn = 0;
             caught = 0;
         }
 
-        void start(int symbols, int bytes) {
+        void begin(int symbols, int bytes, int turn) {
             this.symbols = symbols;
             this.bytes = bytes;
+            this.turn = turn;
             caught = 0;
             equations.start(symbols, bytes);
         }

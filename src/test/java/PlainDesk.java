@@ -61,7 +61,7 @@ public final class PlainDesk {
         return z ^ z >>> 31;
     }
 
-    private static int r(long x, int s, int m) {
+    static int r(long x, int s, int m) {
         return Integer.remainderUnsigned((int) (mix(x, s) >> 32), m);
     }
 
