@@ -4,33 +4,23 @@
  */
 public final class CatcherTest {
     private static final Check CHECK = new Check();
-    private static final int[] NO_PACKETS = {-1, 65536, Integer.MIN_VALUE, Integer.MAX_VALUE};
 
     public static void main(String[] args) {
         openStartsAnew();
-        opensThatAreNot();
         takeUntilAllFollow();
-        takesThatAreNot();
-        takeRefuses();
         takeAllGrows();
         takeAllGoesRound();
-        takeAllStopsWhenRefused();
-        takeAllsThatAreNot();
         giveCatchesTheTape();
         giveNeedsNoBlock();
-        giveRefuses();
-        givesThatAreNot();
         ranks();
         followsWithoutBeingCaught();
-        followsThatAreNot();
         knownTellsBytes();
-        knownAsksInOrder();
         countsOfTheCatcher();
         CHECK.finish();
     }
 
     private static void openStartsAnew() {
-        FountainDesk desk = abcDesk();
+        FountainDesk desk = Desks.abcDesk();
         CHECK.same("count(3)", desk.count(3), 4);
         CHECK.same("count(4)", desk.count(4), 3);
         desk.takeAll(0, 1, 4);
@@ -46,23 +36,8 @@ public final class CatcherTest {
         CHECK.same("opened wider: rank", desk.rank(), 11);
     }
 
-    private static void opensThatAreNot() {
-        FountainDesk desk = abcDesk();
-        desk.take(2);
-        for (int k : new int[] {0, 49, -1, Integer.MIN_VALUE, Integer.MAX_VALUE}) {
-            CHECK.refuses("open(" + k + ", 1)", IllegalArgumentException.class, () -> desk.open(k, 1));
-        }
-        for (int t : new int[] {0, 17, -1, Integer.MIN_VALUE, Integer.MAX_VALUE}) {
-            CHECK.refuses("open(1, " + t + ")", IllegalArgumentException.class, () -> desk.open(1, t));
-        }
-        CHECK.same("the catcher stays: rank", desk.rank(), 12);
-        CHECK.same("the catcher stays: K", desk.count(3), 4);
-        CHECK.same("the catcher stays: T", desk.count(4), 3);
-        CHECK.same("the catcher stays: bytes", desk.known(2, 0), 'g');
-    }
-
     private static void takeUntilAllFollow() {
-        FountainDesk desk = abcDesk();
+        FountainDesk desk = Desks.abcDesk();
         CHECK.same("take(0)", desk.take(0), true);
         CHECK.same("take(0) again", desk.take(0), false);
         CHECK.same("caught twice", desk.count(5), 2);
@@ -74,41 +49,8 @@ public final class CatcherTest {
         CHECK.same("rank", desk.rank(), 15);
     }
 
-    private static void takesThatAreNot() {
-        FountainDesk desk = new FountainDesk();
-        CHECK.refuses("neither: take(-1)", IllegalStateException.class, () -> desk.take(-1));
-        desk.open(4, 3);
-        CHECK.refuses("no block: take(0)", IllegalStateException.class, () -> desk.take(0));
-        FountainDesk other = abcBlock();
-        CHECK.refuses("no catcher: take(0)", IllegalStateException.class, () -> other.take(0));
-        other.open(4, 2);
-        CHECK.refuses("other T: take(-1)", IllegalStateException.class, () -> other.take(-1));
-        other.open(3, 3);
-        CHECK.refuses("other K: take(0)", IllegalStateException.class, () -> other.take(0));
-        other.open(3, 4);
-        CHECK.refuses("K and T the other way: take(0)", IllegalStateException.class, () -> other.take(0));
-        other.open(4, 3);
-        for (int x : NO_PACKETS) {
-            CHECK.refuses("take(" + x + ")", IndexOutOfBoundsException.class, () -> other.take(x));
-        }
-        CHECK.same("nothing was caught", other.count(5), 0);
-        CHECK.same("rank", other.rank(), 11);
-    }
-
-    private static void takeRefuses() {
-        FountainDesk desk = abcDesk();
-        desk.take(1);
-        otherBlock(desk);
-        CHECK.refuses("take(1) of another block", UnsupportedOperationException.class, () -> desk.take(1));
-        CHECK.same("refused: caught", desk.count(5), 1);
-        CHECK.same("refused: rank", desk.rank(), 12);
-        CHECK.same("refused: known(1, 0)", desk.known(1, 0), 'd');
-        CHECK.same("take(0) of another block", desk.take(0), true);
-        CHECK.same("its byte", desk.known(0, 0), 201);
-    }
-
     private static void takeAllGrows() {
-        FountainDesk desk = abcDesk();
+        FountainDesk desk = Desks.abcDesk();
         CHECK.same("takeAll(0, 1, 0)", desk.takeAll(0, 1, 0), 0);
         CHECK.same("none caught", desk.count(5), 0);
         desk.take(0);
@@ -128,8 +70,8 @@ public final class CatcherTest {
         int[][] rounds = {{65534, 1}, {3, -1}, {0, 65537}, {2, -65537}, {0, Integer.MAX_VALUE},
             {5, Integer.MIN_VALUE}, {65535, Integer.MAX_VALUE}, {65535, 65535}, {0, 0}};
         for (int[] round : rounds) {
-            FountainDesk desk = abcDesk();
-            FountainDesk oneByOne = abcDesk();
+            FountainDesk desk = Desks.abcDesk();
+            FountainDesk oneByOne = Desks.abcDesk();
             int grown = 0;
             for (long i = 0; i < 5; i++) {
                 grown += oneByOne.take((int) Math.floorMod(round[0] + i * round[1], 65536L)) ? 1 : 0;
@@ -140,49 +82,13 @@ public final class CatcherTest {
                 CHECK.same(what + ", follows(" + x + ")", desk.follows(x), oneByOne.follows(x));
             }
         }
-        FountainDesk desk = abcDesk();
+        FountainDesk desk = Desks.abcDesk();
         CHECK.same("the same one over and over", desk.takeAll(2, 65536, 100), 1);
         CHECK.same("caught each time", desk.count(5), 100);
     }
 
-    private static void takeAllStopsWhenRefused() {
-        FountainDesk desk = abcDesk();
-        desk.take(1);
-        otherBlock(desk);
-        CHECK.same("takeAll(0, 1, 4), 1 being refused", desk.takeAll(0, 1, 4), 1);
-        CHECK.same("caught until then", desk.count(5), 2);
-        CHECK.same("rank", desk.rank(), 13);
-        CHECK.same("0 was caught", desk.known(0, 0), 201);
-        CHECK.same("1 stays", desk.known(1, 0), 'd');
-        CHECK.same("2 was not reached", desk.follows(2), false);
-        CHECK.same("takeAll(1, 1, 4), the first being refused", desk.takeAll(1, 1, 4), 0);
-        CHECK.same("rank stays", desk.rank(), 13);
-    }
-
-    private static void takeAllsThatAreNot() {
-        FountainDesk none = new FountainDesk();
-        CHECK.refuses("neither: takeAll", IllegalStateException.class, () -> none.takeAll(-1, 1, -1));
-        FountainDesk desk = abcBlock();
-        CHECK.refuses("no catcher: takeAll", IllegalStateException.class, () -> desk.takeAll(0, 1, 1));
-        desk.open(3, 3);
-        CHECK.refuses("other K: takeAll", IllegalStateException.class, () -> desk.takeAll(0, 1, 1));
-        desk.open(4, 4);
-        CHECK.refuses("other T: takeAll", IllegalStateException.class, () -> desk.takeAll(0, 1, 0));
-        desk.open(4, 3);
-        for (int x : NO_PACKETS) {
-            CHECK.refuses("takeAll(" + x + ", 1, 101)", IndexOutOfBoundsException.class,
-                () -> desk.takeAll(x, 1, 101));
-            CHECK.refuses("takeAll(" + x + ", 1, 0)", IndexOutOfBoundsException.class, () -> desk.takeAll(x, 1, 0));
-        }
-        for (int n : new int[] {-1, 101, Integer.MIN_VALUE, Integer.MAX_VALUE}) {
-            CHECK.refuses("takeAll(0, 1, " + n + ")", IllegalArgumentException.class, () -> desk.takeAll(0, 1, n));
-        }
-        CHECK.same("nothing was caught", desk.count(5), 0);
-        CHECK.same("takeAll(0, 1, 100)", desk.takeAll(0, 1, 100), 4);
-    }
-
     private static void giveCatchesTheTape() {
-        FountainDesk desk = abcDesk();
+        FountainDesk desk = Desks.abcDesk();
         desk.take(0);
         desk.feed('d' << 24 | 'e' << 16 | 'f' << 8, 0, 0, 0, 0);
         desk.end(3);
@@ -209,38 +115,6 @@ public final class CatcherTest {
         }
         CHECK.same("one symbol is all", desk.rank(), 12);
         CHECK.same("so all follow", desk.follows(65535), true);
-    }
-
-    private static void giveRefuses() {
-        FountainDesk desk = abcDesk();
-        desk.take(0);
-        desk.feed(0x61626400, 0, 0, 0, 0);
-        desk.end(3);
-        CHECK.refuses("give(0) with its last byte changed", UnsupportedOperationException.class, () -> desk.give(0));
-        CHECK.same("refused: the tape stays", desk.count(0), 3);
-        CHECK.same("refused: caught", desk.count(5), 1);
-        CHECK.same("refused: rank", desk.rank(), 12);
-        CHECK.same("give(1) of the same tape", desk.give(1), true);
-        CHECK.same("its last byte", desk.known(1, 2), 'd');
-        CHECK.same("the others stay", desk.known(0, 2), 'c');
-    }
-
-    private static void givesThatAreNot() {
-        FountainDesk none = abcBlock();
-        CHECK.refuses("no catcher: give(-1)", IllegalStateException.class, () -> none.give(-1));
-        FountainDesk desk = abcDesk();
-        for (int x : NO_PACKETS) {
-            CHECK.refuses("give(" + x + ")", IndexOutOfBoundsException.class, () -> desk.give(x));
-        }
-        CHECK.refuses("give(0) of nothing", IllegalArgumentException.class, () -> desk.give(0));
-        desk.take(0);
-        desk.feed(0, 0, 0, 0, 0);
-        desk.end(4);
-        CHECK.refuses("give(0) of one too many", IllegalArgumentException.class, () -> desk.give(0));
-        desk.end(2);
-        CHECK.refuses("give(0) of one too few", IllegalArgumentException.class, () -> desk.give(0));
-        CHECK.same("the tape stays", desk.count(0), 2);
-        CHECK.same("caught stays", desk.count(5), 1);
     }
 
     private static void ranks() {
@@ -286,17 +160,8 @@ public final class CatcherTest {
         }
     }
 
-    private static void followsThatAreNot() {
-        FountainDesk none = abcBlock();
-        CHECK.refuses("no catcher: follows(-1)", IllegalStateException.class, () -> none.follows(-1));
-        FountainDesk desk = abcDesk();
-        for (int x : NO_PACKETS) {
-            CHECK.refuses("follows(" + x + ")", IndexOutOfBoundsException.class, () -> desk.follows(x));
-        }
-    }
-
     private static void knownTellsBytes() {
-        FountainDesk desk = abcDesk();
+        FountainDesk desk = Desks.abcDesk();
         desk.take(3);
         CHECK.same("known(3, 0)", desk.known(3, 0), 'j');
         CHECK.same("known(3, 2)", desk.known(3, 2), 'l');
@@ -308,23 +173,8 @@ public final class CatcherTest {
         }
     }
 
-    private static void knownAsksInOrder() {
-        FountainDesk none = abcBlock();
-        CHECK.refuses("no catcher: known(-1, 0)", IllegalStateException.class, () -> none.known(-1, 0));
-        FountainDesk desk = abcDesk();
-        desk.take(0);
-        for (int x : NO_PACKETS) {
-            CHECK.refuses("known(" + x + ", 9)", IndexOutOfBoundsException.class, () -> desk.known(x, 9));
-        }
-        CHECK.refuses("does not follow: known(1, 0)", IllegalStateException.class, () -> desk.known(1, 0));
-        CHECK.refuses("does not follow: known(1, 3)", IllegalStateException.class, () -> desk.known(1, 3));
-        for (int i : new int[] {-1, 3, Integer.MIN_VALUE, Integer.MAX_VALUE}) {
-            CHECK.refuses("known(0, " + i + ")", IndexOutOfBoundsException.class, () -> desk.known(0, i));
-        }
-    }
-
     private static void countsOfTheCatcher() {
-        FountainDesk desk = abcDesk();
+        FountainDesk desk = Desks.abcDesk();
         int[] due = {0, 4, 3, 4, 3, 0, 0};
         for (int what = 0; what <= 6; what++) {
             CHECK.same("opened: count(" + what + ")", desk.count(what), due[what]);
@@ -334,7 +184,7 @@ public final class CatcherTest {
         desk.take(2);
         CHECK.same("caught", desk.count(5), 3);
         CHECK.same("symbols that follow", desk.count(6), 2);
-        otherBlock(desk);
+        Desks.otherBlock(desk);
         desk.feed(1, 2, 3, 4, 5);
         CHECK.same("the catcher outlives the block: caught", desk.count(5), 3);
         CHECK.same("the catcher outlives the block: follow", desk.count(6), 2);
@@ -350,28 +200,5 @@ public final class CatcherTest {
             desk.feed(0x12345678 * (n + 1), 0x9ABCDEF0 + n, n, ~n, 0x0F1E2D3C);
         }
         desk.end(bytes);
-    }
-
-    /** A block of the symbols abc, def, ghi, jkl. */
-    private static FountainDesk abcBlock() {
-        FountainDesk desk = new FountainDesk();
-        desk.feed(0x61626364, 0x65666768, 0x696A6B6C, 0, 0);
-        desk.end(12);
-        desk.block(4, 3);
-        return desk;
-    }
-
-    /** The same, with a catcher for it. */
-    private static FountainDesk abcDesk() {
-        FountainDesk desk = abcBlock();
-        desk.open(4, 3);
-        return desk;
-    }
-
-    /** The block becomes one of the bytes 201 .. 212. */
-    private static void otherBlock(FountainDesk desk) {
-        desk.feed(0xC9CACBCC, 0xCDCECFD0, 0xD1D2D3D4, 0, 0);
-        desk.end(12);
-        desk.block(4, 3);
     }
 }

@@ -21,6 +21,18 @@ final class Check {
         }
     }
 
+    /** Of two long readings that differ, just the first answer that is not the same is printed. */
+    void sameReading(String what, String got, String due) {
+        String[] pieces = got.split("; ");
+        String[] duePieces = due.split("; ");
+        int at = 0;
+        while (at < pieces.length - 1 && at < duePieces.length - 1 && pieces[at].equals(duePieces[at])) {
+            at++;
+        }
+        same(what + ":", pieces[at], duePieces[at]);
+        same(what + ": answers", pieces.length, duePieces.length);
+    }
+
     void refuses(String what, Class<? extends RuntimeException> due, Runnable call) {
         done++;
         String got = "nothing";

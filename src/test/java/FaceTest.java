@@ -20,6 +20,7 @@ public final class FaceTest {
         check.same("the methods", methods().toString(), dueMethods().toString());
         check.same("the constructors", constructors().toString(), "[public FountainDesk()]");
         check.same("the fields", fields().toString(), "[public static final int NONE]");
+        check.same("NONE", FountainDesk.NONE, -1);
         check.same("classes inside", openClasses().toString(), "[]");
         check.same("private methods with a public name", hiddenTwins().toString(), "[]");
         check.finish();

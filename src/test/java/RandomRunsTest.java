@@ -1,15 +1,9 @@
-import java.lang.reflect.InvocationTargetException;
-import java.lang.reflect.Method;
-import java.util.Arrays;
-import java.util.HashMap;
-import java.util.Map;
 import java.util.Random;
 
 /** Long mixed runs, right and wrong calls among each other: FountainDesk answers as PlainDesk does. */
 public final class RandomRunsTest {
     private static final int RUNS = 60;
     private static final int CALLS = 512;
-    private static final Map<String, Method> METHODS = new HashMap<>();
 
     private final Check check;
     private final Random random;
@@ -115,29 +109,8 @@ public final class RandomRunsTest {
             args = new Object[] {random.nextInt(50), random.nextInt(18)};
         }
         calls++;
-        String got = answer(desk, method, args);
-        String due = answer(plain, method, args);
-        check.same(name + ", call " + calls + ": " + method + Arrays.toString(args), got, due);
-    }
-
-    private static String answer(Object on, String method, Object[] args) {
-        try {
-            return String.valueOf(methodOf(on.getClass(), method).invoke(on, args));
-        } catch (InvocationTargetException e) {
-            return "throws." + e.getCause().getClass().getSimpleName();
-        } catch (IllegalAccessException e) {
-            throw new AssertionError(e);
-        }
-    }
-
-    private static Method methodOf(Class<?> type, String name) {
-        return METHODS.computeIfAbsent(type.getName() + "." + name, key -> {
-            for (Method one : type.getDeclaredMethods()) {
-                if (one.getName().equals(name)) {
-                    return one;
-                }
-            }
-            throw new AssertionError(key);
-        });
+        String got = Calls.answer(desk, method, args);
+        String due = Calls.answer(plain, method, args);
+        check.same(name + ", call " + calls + ": " + Calls.text(method, args), got, due);
     }
 }

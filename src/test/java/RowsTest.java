@@ -1,31 +1,16 @@
 import java.util.TreeSet;
 
-/**
- * Promises 4 (turn), 7 (row) and 15 (product): what is told without a tape. No desk is asked more than 512
- * times, here and in the other tests: nothing is promised behind that.
- */
+/** Promises 4 (turn), 7 (row) and 15 (product): what is told without a tape. */
 public final class RowsTest {
     private static final Check CHECK = new Check();
-    private static final int[] NO_SYMBOLS = {0, 49, -1, Integer.MIN_VALUE, Integer.MAX_VALUE};
-    private static final int[] NO_PACKETS = {-1, 65536, Integer.MIN_VALUE, Integer.MAX_VALUE};
 
     public static void main(String[] args) {
-        theModelMixes();
         turns();
-        turnsThatAreNot();
         rows();
         rowsHaveEverySize();
         everyDrawHasItsSize();
-        rowsThatAreNot();
         products();
-        productsOfLowestBits();
         CHECK.finish();
-    }
-
-    /** The mix of 0 by 0 is the well known first number of SplitMix64 from 0 on. */
-    private static void theModelMixes() {
-        CHECK.same("mix(0, 0)", PlainDesk.mix(0, 0), 0xE220A8397B1DCDAFL);
-        CHECK.same("mix(0, 1)", PlainDesk.mix(0, 1), 0x6E789E6AA1B965F4L);
     }
 
     private static void turns() {
@@ -38,13 +23,6 @@ public final class RowsTest {
         for (int k = 48; k >= 1; k--) {
             CHECK.same("turn(" + k + ")", desk.turn(k), plain.turn(k));
             CHECK.same("turn(" + k + ") again", desk.turn(k), plain.turn(k));
-        }
-    }
-
-    private static void turnsThatAreNot() {
-        FountainDesk desk = new FountainDesk();
-        for (int k : NO_SYMBOLS) {
-            CHECK.refuses("turn(" + k + ")", IllegalArgumentException.class, () -> desk.turn(k));
         }
     }
 
@@ -112,17 +90,6 @@ public final class RowsTest {
         return sizes[i][1];
     }
 
-    private static void rowsThatAreNot() {
-        FountainDesk desk = new FountainDesk();
-        for (int k : NO_SYMBOLS) {
-            CHECK.refuses("row(" + k + ", 0, ..)", IllegalArgumentException.class, () -> desk.row(k, 0, false));
-        }
-        for (int x : NO_PACKETS) {
-            CHECK.refuses("row(1, " + x + ", ..)", IndexOutOfBoundsException.class, () -> desk.row(1, x, true));
-        }
-        CHECK.refuses("row(49, -1, ..)", IllegalArgumentException.class, () -> desk.row(49, -1, false));
-    }
-
     private static void products() {
         FountainDesk desk = new FountainDesk();
         CHECK.same("product(2, 128)", desk.product(2, 128), 29);
@@ -133,15 +100,5 @@ public final class RowsTest {
                 CHECK.same("product(" + a + ", " + b + ")", desk.product(a, b), PlainDesk.times(a, b));
             }
         }
-    }
-
-    private static void productsOfLowestBits() {
-        FountainDesk desk = new FountainDesk();
-        CHECK.same("product(257, 3)", desk.product(257, 3), 3);
-        CHECK.same("product(3, 257)", desk.product(3, 257), 3);
-        CHECK.same("product(256, 7)", desk.product(256, 7), 0);
-        CHECK.same("product(-1, -1)", desk.product(-1, -1), 226);
-        CHECK.same("product(least, 1)", desk.product(Integer.MIN_VALUE, 1), 0);
-        CHECK.same("product(most, 1)", desk.product(Integer.MAX_VALUE, 1), 255);
     }
 }

@@ -1,37 +1,16 @@
-/** Promises 1 (a new object), 2 (feed), 3 (end), 5 (block), 6 (byteAt), and 16 (count) of these. */
+/** Promises 2 (feed), 3 (end), 5 (block), 6 (byteAt), and 16 (count) of these, as they are used day by day. */
 public final class TapeAndBlockTest {
     private static final Check CHECK = new Check();
-    private static final int[] NO_SYMBOLS = {0, 49, -1, Integer.MIN_VALUE, Integer.MAX_VALUE};
-    private static final int[] NO_BYTES = {0, 17, -1, Integer.MIN_VALUE, Integer.MAX_VALUE};
-    private static final int[] NO_PACKETS = {-1, 65536, Integer.MIN_VALUE, Integer.MAX_VALUE};
 
     public static void main(String[] args) {
-        newObject();
         feedCounts();
         feedTakesHighestFirst();
-        feedStopsAtEightHundred();
         endKeepsTheFirst();
-        endsThatAreNot();
         blockTakesTheTape();
-        blocksThatAreNot();
         blockIsReplaced();
         packetsOfOneBlock();
         symbolsOfEveryBlock();
-        bytesThatAreNot();
-        countsThatAreNot();
         CHECK.finish();
-    }
-
-    private static void newObject() {
-        FountainDesk desk = new FountainDesk();
-        for (int what = 0; what <= 6; what++) {
-            CHECK.same("new: count(" + what + ")", desk.count(what), 0);
-        }
-        CHECK.refuses("new: byteAt", IllegalStateException.class, () -> desk.byteAt(0, 0));
-        CHECK.refuses("new: rank", IllegalStateException.class, desk::rank);
-        CHECK.refuses("new: end(1)", IllegalArgumentException.class, () -> desk.end(1));
-        desk.end(0);
-        CHECK.same("new: NONE", FountainDesk.NONE, -1);
     }
 
     private static void feedCounts() {
@@ -51,20 +30,6 @@ public final class TapeAndBlockTest {
         }
     }
 
-    private static void feedStopsAtEightHundred() {
-        FountainDesk desk = new FountainDesk();
-        for (int n = 20; n <= 800; n += 20) {
-            CHECK.same("feed up to " + n, desk.feed(n, n, n, n, n), n);
-        }
-        CHECK.refuses("feed past 800", UnsupportedOperationException.class, () -> desk.feed(1, 1, 1, 1, 1));
-        CHECK.same("count(0) when full", desk.count(0), 800);
-        desk.end(781);
-        CHECK.refuses("feed to 801", UnsupportedOperationException.class, () -> desk.feed(1, 1, 1, 1, 1));
-        CHECK.same("count(0) after", desk.count(0), 781);
-        desk.end(780);
-        CHECK.same("feed to 800", desk.feed(1, 1, 1, 1, 1), 800);
-    }
-
     private static void endKeepsTheFirst() {
         FountainDesk desk = new FountainDesk();
         desk.feed(0x01020304, 0x05060708, 0, 0, 0);
@@ -81,19 +46,8 @@ public final class TapeAndBlockTest {
         }
     }
 
-    private static void endsThatAreNot() {
-        FountainDesk desk = new FountainDesk();
-        desk.feed(1, 2, 3, 4, 5);
-        for (int n : new int[] {-1, 21, Integer.MIN_VALUE, Integer.MAX_VALUE}) {
-            CHECK.refuses("end(" + n + ")", IllegalArgumentException.class, () -> desk.end(n));
-        }
-        CHECK.same("count(0) after", desk.count(0), 20);
-        desk.end(0);
-        CHECK.same("end(0)", desk.count(0), 0);
-    }
-
     private static void blockTakesTheTape() {
-        FountainDesk desk = abcBlock();
+        FountainDesk desk = Desks.abcBlock();
         CHECK.same("count(0)", desk.count(0), 0);
         CHECK.same("count(1)", desk.count(1), 4);
         CHECK.same("count(2)", desk.count(2), 3);
@@ -103,27 +57,8 @@ public final class TapeAndBlockTest {
         CHECK.same("byteAt does not look at the tape", desk.byteAt(0, 0), 97);
     }
 
-    private static void blocksThatAreNot() {
-        FountainDesk desk = abcBlock();
-        desk.feed(1, 2, 3, 4, 5);
-        for (int k : NO_SYMBOLS) {
-            CHECK.refuses("block(" + k + ", 1)", IllegalArgumentException.class, () -> desk.block(k, 1));
-        }
-        for (int t : NO_BYTES) {
-            CHECK.refuses("block(1, " + t + ")", IllegalArgumentException.class, () -> desk.block(1, t));
-        }
-        CHECK.refuses("block(3, 6): too few", IllegalArgumentException.class, () -> desk.block(3, 6));
-        CHECK.refuses("block(3, 7): too many", IllegalArgumentException.class, () -> desk.block(3, 7));
-        CHECK.refuses("block(1, 20)", IllegalArgumentException.class, () -> desk.block(1, 20));
-        CHECK.refuses("block(-4, -5)", IllegalArgumentException.class, () -> desk.block(-4, -5));
-        CHECK.same("the tape stays", desk.count(0), 20);
-        CHECK.same("the block's K stays", desk.count(1), 4);
-        CHECK.same("the block's T stays", desk.count(2), 3);
-        CHECK.same("the block's bytes stay", desk.byteAt(65535, 2), 153);
-    }
-
     private static void blockIsReplaced() {
-        FountainDesk desk = abcBlock();
+        FountainDesk desk = Desks.abcBlock();
         desk.feed(0x0A0B0C0D, 0x0E0F1011, 0, 0, 0);
         desk.end(8);
         desk.block(8, 1);
@@ -136,7 +71,7 @@ public final class TapeAndBlockTest {
     }
 
     private static void packetsOfOneBlock() {
-        FountainDesk desk = abcBlock();
+        FountainDesk desk = Desks.abcBlock();
         for (int i = 0; i < 12; i++) {
             CHECK.same("symbol byte " + i, desk.byteAt(i / 3, i % 3), 97 + i);
         }
@@ -169,34 +104,5 @@ public final class TapeAndBlockTest {
                 CHECK.same("K " + k + ": byteAt(" + x + ", " + i + ")", desk.byteAt(x, i), plain.byteAt(x, i));
             }
         }
-    }
-
-    private static void bytesThatAreNot() {
-        FountainDesk without = new FountainDesk();
-        CHECK.refuses("no block: byteAt(-1, 0)", IllegalStateException.class, () -> without.byteAt(-1, 0));
-        CHECK.refuses("no block: byteAt(0, 99)", IllegalStateException.class, () -> without.byteAt(0, 99));
-        FountainDesk desk = abcBlock();
-        for (int x : NO_PACKETS) {
-            CHECK.refuses("byteAt(" + x + ", 0)", IndexOutOfBoundsException.class, () -> desk.byteAt(x, 0));
-        }
-        for (int i : new int[] {-1, 3, Integer.MIN_VALUE, Integer.MAX_VALUE}) {
-            CHECK.refuses("byteAt(4, " + i + ")", IndexOutOfBoundsException.class, () -> desk.byteAt(4, i));
-        }
-    }
-
-    private static void countsThatAreNot() {
-        FountainDesk desk = new FountainDesk();
-        for (int what : new int[] {-1, 7, Integer.MIN_VALUE, Integer.MAX_VALUE}) {
-            CHECK.refuses("count(" + what + ")", IllegalArgumentException.class, () -> desk.count(what));
-        }
-    }
-
-    /** A block of the symbols abc, def, ghi, jkl. */
-    private static FountainDesk abcBlock() {
-        FountainDesk desk = new FountainDesk();
-        desk.feed(0x61626364, 0x65666768, 0x696A6B6C, 0, 0);
-        desk.end(12);
-        desk.block(4, 3);
-        return desk;
     }
 }
